@@ -512,6 +512,14 @@ public final class OnlyDifferences {
         return (bits >>> which & 1) != 0;
     }
 
+    private static int lowestIn(int bits) {
+        int lowest = 0;
+        while (lowest < 31 && !isIn(bits, lowest)) {
+            lowest++;
+        }
+        return lowest;
+    }
+
     /** The tape, and a reader of the text on it that remembers the first FAULT alone. */
     private static final class Tape {
         private static final int MOST = 260;
@@ -921,7 +929,7 @@ public final class OnlyDifferences {
             if (rest == 0) {
                 return 1;
             }
-            int thing = Integer.numberOfTrailingZeros(rest);
+            int thing = lowestIn(rest);
             int bit = 1 << thing;
             int ways = 0;
             for (int weight = 0; weight <= most; weight++) {
@@ -962,7 +970,7 @@ public final class OnlyDifferences {
         int leastThings(int[] direct, int fewest) {
             for (int some = 1; some <= ALL_THINGS; some++) {
                 if (Integer.bitCount(some) == fewest) {
-                    int start = Integer.numberOfTrailingZeros(some);
+                    int start = lowestIn(some);
                     if (stepsBack(direct, some, start, fewest) == fewest) {
                         return some;
                     }

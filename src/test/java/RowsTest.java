@@ -1,8 +1,13 @@
 /** Promises 18 to 29: what is reckoned of a few numbers on the tape, and TRIANGLES. */
 public final class RowsTest {
     private static OnlyDifferences x = new OnlyDifferences();
+    /** More than any call takes, and fit for each: what is refused is refused for its arguments. */
+    private static final int[] MANY = new int[40];
 
     public static void main(String[] args) {
+        for (int i = 0; i < MANY.length; i++) {
+            MANY[i] = i + 1;
+        }
         row();
         walk();
         round();
@@ -31,7 +36,7 @@ public final class RowsTest {
 
     private static void refused(String call, long got, long want) {
         Due.is(call, got, want);
-        Due.is("bytes behind " + call, x.count(5), 20);
+        Due.is("bytes behind " + call, x.count(5), MANY.length);
     }
 
     private static void rowOf(int[] numbers, int depth, long on) {
@@ -57,15 +62,17 @@ public final class RowsTest {
         rowOf(new int[] {3, 3, 3, 3, 3, 3, 3, 3, 3, 3, 3, 3}, 0, 3);
         rowOf(new int[] {0, 65535, 0, 65535, 0, 65535, 0, 65535, 0, 65535, 0, 65535}, 11, 134215680L);
         rowOf(new int[] {65535, 0, 65535, 0, 65535, 0, 65535, 0, 65535, 0, 65535, 0}, 11, -134150145L);
-        fed(1, 2, 3, 4);
+        fed(MANY);
         refused("row(1, 0)", x.row(1, 0), Long.MIN_VALUE);
         refused("row(13, 0)", x.row(13, 0), Long.MIN_VALUE);
-        refused("row(11, 0) of 20 bytes", x.row(11, 0), Long.MIN_VALUE);
         refused("row(2, 2)", x.row(2, 2), Long.MIN_VALUE);
         refused("row(2, -1)", x.row(2, -1), Long.MIN_VALUE);
         refused("row(MIN, 0)", x.row(Integer.MIN_VALUE, 0), Long.MIN_VALUE);
         refused("row(2^31 / 2 + 2, 0)", x.row(1073741826, 0), Long.MIN_VALUE);
-        taken("row(10, 0)", x.row(10, 0), 9);
+        taken("row(12, 0)", x.row(12, 0), 1);
+        fed(0, 1, 0, 2, 0, 4);
+        Due.is("row(11, 0) of 20 bytes", x.row(11, 0), Long.MIN_VALUE);
+        taken("row(10, 0) of 20 bytes", x.row(10, 0), 9);
     }
 
     private static void walkOf(int[] bytes, int end, int most, int least, int turns) {
@@ -89,7 +96,7 @@ public final class RowsTest {
             far[i] = 128;
         }
         walkOf(far, -2560, 0, -2560, 0);
-        fed(1);
+        fed(MANY);
         refused("walk(0, 0)", x.walk(0, 0), -1000000);
         refused("walk(21, 0)", x.walk(21, 0), -1000000);
         refused("walk(1, 4)", x.walk(1, 4), -1000000);
@@ -117,7 +124,7 @@ public final class RowsTest {
         roundOf(new int[] {255, 0, 0, 0, 0, 0, 0, 0}, 8, 1, 8);
         roundOf(new int[] {1, 0, 0, 0, 0}, -2, 15, 1);
         roundOf(new int[] {1, 1, 0, 0, 0, 0, 0}, -2, 7, 0);
-        fed(1, 2, 3);
+        fed(MANY);
         refused("round(1, 0)", x.round(1, 0), -1);
         refused("round(9, 0)", x.round(9, 0), -1);
         refused("round(3, 3)", x.round(3, 3), -1);
@@ -161,12 +168,12 @@ public final class RowsTest {
         riseOf(new int[] {1, 4, 2, 5, 3, 6, 4, 7}, 6, 8, 10);
         riseOf(new int[] {1, 2, 3, 4}, 3, 3, 3);
         riseOf(new int[] {10, 1, 4, 0, 9, 8, 20, 3, 7}, 20, 24, 27);
-        fed(1);
+        fed(MANY);
         refused("bestRise(1, 0)", x.bestRise(1, 0), -1);
         refused("bestRise(1, 4)", x.bestRise(1, 4), -1);
         refused("bestRise(0, 1)", x.bestRise(0, 1), -1);
         refused("bestRise(21, 1)", x.bestRise(21, 1), -1);
-        taken("bestRise(20, 1)", x.bestRise(20, 1), 0);
+        taken("bestRise(20, 1)", x.bestRise(20, 1), 19);
         Due.is("bestRise of none", x.bestRise(1, 1), -1);
     }
 
@@ -183,7 +190,7 @@ public final class RowsTest {
         narrowestOf(0, 0, 77);
         narrowestOf(255, 0, 255, 0);
         narrowestOf(2, 3, 0, 100, 101, 102, 200, 255);
-        fed(1);
+        fed(MANY);
         refused("narrowest(3, 3)", x.narrowest(3, 3), -1);
         refused("narrowest(3, -1)", x.narrowest(3, -1), -1);
         refused("narrowest(0, 0)", x.narrowest(0, 0), -1);
@@ -205,7 +212,7 @@ public final class RowsTest {
         twosOf(1, 255, 255, 0);
         twosOf(0, 0, 9);
         twosOf(190, 0, new int[20]);
-        fed(1);
+        fed(MANY);
         refused("twos(1, -1)", x.twos(1, -1), -1);
         refused("twos(1, 256)", x.twos(1, 256), -1);
         refused("twos(0, 0)", x.twos(0, 0), -1);
@@ -226,7 +233,7 @@ public final class RowsTest {
         pairedOf(255, 255, 0, 255);
         pairedOf(0, 0, 8, 8);
         pairedOf(8, 1, 15, 0, 14, 1, 13, 2, 12, 3, 11, 4, 10, 5, 9, 6, 8, 7);
-        fed(1, 2, 3, 4);
+        fed(MANY);
         refused("paired(3, 0)", x.paired(3, 0), -1);
         refused("paired(0, 0)", x.paired(0, 0), -1);
         refused("paired(1, 0)", x.paired(1, 0), -1);
@@ -261,7 +268,7 @@ public final class RowsTest {
         halvesOf(0, 510, most);
         most[15] = 254;
         halvesOf(1, 510, most);
-        fed(1, 2);
+        fed(MANY);
         refused("halves(1, 0)", x.halves(1, 0), -1);
         refused("halves(17, 0)", x.halves(17, 0), -1);
         refused("halves(2, 2)", x.halves(2, 2), -1);
@@ -286,7 +293,7 @@ public final class RowsTest {
         steadyOf(20, 1, new int[20]);
         steadyOf(3, 6, 1, 200, 1, 200, 1, 200);
         steadyOf(5, 2, 255, 204, 153, 102, 51, 50);
-        fed(1);
+        fed(MANY);
         refused("steady(1, 2)", x.steady(1, 2), -1);
         refused("steady(1, -1)", x.steady(1, -1), -1);
         refused("steady(0, 0)", x.steady(0, 0), -1);
@@ -312,7 +319,7 @@ public final class RowsTest {
         comesOf(-3, -3, 0);
         comesOf(-3, -3, 5, 0);
         comesOf(-3, -3, 5, 6, 5);
-        fed(1);
+        fed(MANY);
         refused("comes(1, 2)", x.comes(1, 2), -1);
         refused("comes(1, -1)", x.comes(1, -1), -1);
         refused("comes(0, 0)", x.comes(0, 0), -1);
@@ -338,7 +345,7 @@ public final class RowsTest {
         restsOf(7, -3, -3, 1, 7);
         restsOf(7, -3, -3, 1, 255);
         restsOf(7, -3, -3, 1, 2, 1);
-        fed(1, 2);
+        fed(MANY);
         refused("rests(2, 1, 0)", x.rests(2, 1, 0), -1);
         refused("rests(2, 61, 0)", x.rests(2, 61, 0), -1);
         refused("rests(1, 7, 0)", x.rests(1, 7, 0), -1);
