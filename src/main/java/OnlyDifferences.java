@@ -367,7 +367,10 @@ public final class OnlyDifferences {
         if (!isFrom(n, 1, LONGEST_RUN)) {
             return NONE;
         }
-        market.passDays(n, rules);
+        market.countAnew();
+        for (int gone = 0; gone < n; gone++) {
+            market.passDay(rules);
+        }
         return market.sales;
     }
 
@@ -376,7 +379,10 @@ public final class OnlyDifferences {
             return NONE;
         }
         trial.takeAll(market);
-        trial.passDays(n, rules);
+        trial.countAnew();
+        for (int gone = 0; gone < n; gone++) {
+            trial.passDay(rules);
+        }
         if (what == 0) {
             return trial.sales;
         }
@@ -577,11 +583,11 @@ public final class OnlyDifferences {
 
         /** Behind a FAULT there is nothing more: so every reader comes to its end by itself. */
         int sign() {
-            return isOver() ? END : bytes[at];
+            return fault != 0 || at >= end ? END : bytes[at];
         }
 
         boolean isOver() {
-            return hasFailed() || at >= end;
+            return fault != 0 || at >= end;
         }
 
         boolean hasFailed() {
@@ -589,7 +595,7 @@ public final class OnlyDifferences {
         }
 
         void step() {
-            if (!isOver()) {
+            if (fault == 0 && at < end) {
                 at++;
             }
         }
@@ -620,16 +626,16 @@ public final class OnlyDifferences {
             return which;
         }
 
-        boolean isAtDigit() {
-            return isFrom(sign(), '0', '9');
+        static boolean isDigit(int sign) {
+            return sign >= '0' && sign <= '9';
         }
 
         int number(int mostDigits) {
             int number = 0;
-            if (!isAtDigit()) {
+            if (!isDigit(sign())) {
                 fail(1, at);
             }
-            for (int digits = 0; digits <= mostDigits && isAtDigit(); digits++) {
+            for (int digits = 0; digits <= mostDigits && isDigit(sign()); digits++) {
                 if (digits == mostDigits) {
                     fail(2, at);
                 } else {
@@ -1023,7 +1029,6 @@ public final class OnlyDifferences {
         private final int[] seen = new int[LawReader.LETTERS.length()];
         private final int[] stack = new int[64];
         private int height = 0;
-        private boolean refused = false;
 
         void clear() {
             size = 0;
@@ -1070,7 +1075,7 @@ public final class OnlyDifferences {
 
         boolean shuts() {
             for (int rule = 0; rule < size; rule++) {
-                if (letter[rule] == 'x' && holds(rule)) {
+                if (letter[rule] == 'x' && run(testAt[rule], endAt[rule]) != 0) {
                     return true;
                 }
             }
@@ -1079,53 +1084,44 @@ public final class OnlyDifferences {
 
         int ask(int which, int most, int none) {
             for (int rule = 0; rule < size; rule++) {
-                if (letter[rule] == which && holds(rule)) {
+                if (letter[rule] == which && run(testAt[rule], endAt[rule]) != 0) {
                     return Math.max(0, Math.min(most, run(valueAt[rule], testAt[rule])));
                 }
             }
             return none;
         }
 
-        private boolean holds(int rule) {
-            return run(testAt[rule], endAt[rule]) != 0;
-        }
-
         /** What is REFUSED is 0 for both: an E that is 0, a C that does not hold. */
         private int run(int from, int to) {
             height = 0;
-            refused = false;
             for (int at = from; at < to; at++) {
                 int what = sign[at];
+                int last = isPushed(what) ? 0 : pop();
                 if (what == NUMBER) {
                     push(beside[at]);
                 } else if (what == LETTER) {
                     push(seen[beside[at]]);
                 } else if (what == '!') {
-                    push(pop() == 0 ? 1 : 0);
+                    push(last == 0 ? 1 : 0);
                 } else if (what == '&' || what == '|') {
-                    at = isSettled(what) ? Math.max(at, beside[at] - 1) : at;
-                } else {
-                    int right = pop();
-                    push(reckon(what, pop(), right));
-                }
-                if (refused) {
+                    if ((last != 0) == (what == '|')) {
+                        push(last);
+                        at = Math.max(at, beside[at] - 1);
+                    }
+                } else if (last == 0 && (what == '/' || what == '%')) {
                     return 0;
+                } else {
+                    push(reckon(what, pop(), last));
                 }
             }
             return pop();
         }
 
-        /** What is settled by its left side keeps it; else only the right side matters. */
-        private boolean isSettled(int what) {
-            int left = pop();
-            if ((left != 0) == (what == '|')) {
-                push(left);
-                return true;
-            }
-            return false;
+        private static boolean isPushed(int what) {
+            return what == NUMBER || what == LETTER;
         }
 
-        private int reckon(int what, int left, int right) {
+        private static int reckon(int what, int left, int right) {
             switch (what) {
                 case '+':
                     return left + right;
@@ -1133,23 +1129,17 @@ public final class OnlyDifferences {
                     return left - right;
                 case '*':
                     return left * right;
+                case '/':
+                    return right == 0 ? 0 : left / right;
+                case '%':
+                    return right == 0 ? 0 : left % right;
                 case '<':
                     return left < right ? 1 : 0;
                 case '>':
                     return left > right ? 1 : 0;
-                case '=':
-                    return left == right ? 1 : 0;
                 default:
-                    return divide(what, left, right);
+                    return left == right ? 1 : 0;
             }
-        }
-
-        private int divide(int what, int left, int right) {
-            if (right == 0) {
-                refused = true;
-                return 0;
-            }
-            return what == '/' ? left / right : left % right;
         }
 
         private void push(int number) {
@@ -1247,7 +1237,14 @@ public final class OnlyDifferences {
                     tape.pass(')');
                 }
             } else {
-                readComparison(depth);
+                readSum(depth);
+                int sign = tape.sign();
+                if (sign != '<' && sign != '>' && sign != '=') {
+                    tape.fail(1, tape.at);
+                }
+                tape.step();
+                readSum(depth);
+                law.add(sign, 0);
             }
             if ((depth - outside & 1) != 0) {
                 law.add('!', 0);
@@ -1261,17 +1258,6 @@ public final class OnlyDifferences {
             }
             tape.step();
             return depth + 1;
-        }
-
-        private void readComparison(int depth) {
-            readSum(depth);
-            int sign = tape.sign();
-            if (sign != '<' && sign != '>' && sign != '=') {
-                tape.fail(1, tape.at);
-            }
-            tape.step();
-            readSum(depth);
-            law.add(sign, 0);
         }
 
         private void readSum(int depth) {
@@ -1305,7 +1291,7 @@ public final class OnlyDifferences {
                     readSum(inside);
                     tape.pass(']');
                 }
-            } else if (tape.isAtDigit()) {
+            } else if (Tape.isDigit(tape.sign())) {
                 law.add(Law.NUMBER, tape.number(5));
             } else {
                 readLetter();
@@ -1444,12 +1430,9 @@ public final class OnlyDifferences {
             return many;
         }
 
-        void passDays(int n, Law law) {
+        void countAnew() {
             sales = 0;
             timesSoldOut = 0;
-            for (int gone = 0; gone < n; gone++) {
-                passDay(law);
-            }
         }
 
         boolean passDay(Law law) {

@@ -305,6 +305,8 @@ public final class ClaimsTest {
         Due.is("orders(2048)", x.orders(2048), 1);
         Due.is("orders(4096)", x.orders(4096), -1);
         Due.is("orders(-1)", x.orders(-1), -1);
+        Due.is("chain(1) behind orders", x.chain(1), 0);
+        Due.is("chain(0) behind orders", x.chain(0), 3);
     }
 
     private static void weighings() {
