@@ -28,6 +28,7 @@ public final class ClaimsEdgesTest {
         claimIs();
         cannotBe();
         replaced();
+        replacedAgain();
         Due.end();
     }
 
@@ -73,6 +74,12 @@ public final class ClaimsEdgesTest {
                 Due.is("KNOWN of " + a + " over " + b, y.known(a, b), 9999 * (a - b));
             }
         }
+        x = with("b-a=5;c-b=2;l-c=1");
+        Due.is("hung on from the other side", x.known(11, 0), 8);
+        Due.is("the other way", x.known(0, 2), -7);
+        x = with("a-b=3;c-d=5;a-d=9;f-e=4;f-b=1");
+        Due.is("by groups that are joined", x.known(1, 2), 1);
+        Due.is("by groups that are joined last", x.known(4, 3), 3);
         x = with("a-b<3;a-b>3;c-d=0");
         Due.is("by those with = alone", x.known(0, 1), UNKNOWN);
         Due.is("just 0", x.known(2, 3), 0);
@@ -413,5 +420,29 @@ public final class ClaimsEdgesTest {
         Due.is("BOUND of those told", x.bound(10, 11), 1);
         Due.is("refused", x.claims(1), -1);
         Due.is("BOUND behind it", x.bound(10, 11), 1);
+    }
+
+    /** Time and again: each THING hangs together by the last CLAIMS alone, told or at FAULT ahead. */
+    private static void replacedAgain() {
+        OnlyDifferences x = new OnlyDifferences();
+        for (int thing = 0; thing < 12; thing++) {
+            char one = (char) ('a' + thing);
+            char other = (char) ('a' + (thing + 1) % 12);
+            char third = (char) ('a' + (thing + 2) % 12);
+            String there = one + "-" + other + "=5;" + third + "-" + one + "=4";
+            String[] ahead = {there, "k-l=1;" + there, there + ";" + there.replace('5', '6'), there + ";"};
+            for (String text : ahead) {
+                Feed.claims(x, text);
+                Feed.claims(x, text);
+                Due.is("none with =", Feed.claims(x, one + "-" + other + "<1"), 1);
+                Due.is("GROUPS behind " + text, x.groups(100), 12);
+                Due.is("GROUP behind " + text, x.groups(thing), 1 << thing);
+                Due.is("KNOWN behind " + text, x.known(thing, (thing + 1) % 12), UNKNOWN);
+                Due.is("KNOWN the other way behind " + text, x.known((thing + 1) % 12, thing), UNKNOWN);
+                Due.is("BOUND behind " + text, x.bound(thing, (thing + 1) % 12), 1);
+                Due.is("no BOUND behind " + text, x.bound((thing + 1) % 12, thing), UNBOUNDED);
+            }
+            x = thing % 4 == 3 ? new OnlyDifferences() : x;
+        }
     }
 }

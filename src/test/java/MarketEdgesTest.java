@@ -12,6 +12,7 @@ public final class MarketEdgesTest {
         boundsOfSales();
         boundsOfPrice();
         boundsOfRise();
+        stallsByNumbers();
         shut();
         soldOut();
         soldOutAsked();
@@ -152,6 +153,22 @@ public final class MarketEdgesTest {
             Due.is("SALES by r " + rise[i], x.days(1), 5);
             stall(x, 0, 2 + want[i], 2, 5, 1);
         }
+    }
+
+    /** By numbers, in whatever order they are told: each with the next DRAW, and as all is then. */
+    private static void stallsByNumbers() {
+        OnlyDifferences x = with("7:900-0;3:900-0;0:900-0", "vw(k=0);v10*w(k=3);v100*w(k=7)");
+        x.days(1);
+        stall(x, 0, 900 - drawn(1, 1) % 10, 0, drawn(1, 1) % 10, 0);
+        stall(x, 3, 900 - drawn(1, 2) % 10 * 10, 0, drawn(1, 2) % 10 * 10, 0);
+        stall(x, 7, 900 - drawn(1, 3) % 10 * 100, 0, drawn(1, 3) % 10 * 100, 0);
+        Due.is("a DRAW each", x.count(6), drawn(1, 3));
+        x = with("6:10-0;2:10-0", "v1+o*7(0=0)");
+        Due.is("the later one sees what the one ahead has left", x.days(1), 1 + 1);
+        Due.is("the one ahead sees what is", x.days(1), 1 + 1);
+        x = with("6:11-0;2:10-0", "v1+o*7(0=0)");
+        Due.is("the one ahead sees what is more", x.days(1), 8 + 1);
+        Due.is("then it sees less", x.days(1), 2 + 1);
     }
 
     private static void shut() {
@@ -344,6 +361,13 @@ public final class MarketEdgesTest {
         sells("2+3*4-7", 7);
         sells("100/5/2-3", 7);
         sells("20%13*1", 7);
+        holds("2<2", false);
+        holds("2>2", false);
+        holds("2=2", true);
+        holds("2<3", true);
+        holds("3>2", true);
+        holds("2=3", false);
+        holds("0-1<0", true);
         holds(most + "+1<0", true);
         holds(least + "-1>0", true);
         holds(most + ">" + least, true);
@@ -461,6 +485,12 @@ public final class MarketEdgesTest {
         Due.is("of the most the lowest", x.richest(), 5);
         Feed.stock(x, "7:9-0;6:9-0");
         Due.is("MONEY is none then", x.richest(), 6);
+        x = with("1:9-0;0:9-0;7:9-0", "v1(0=0);y3(k=0&t=0);y9(k=7&t=1)");
+        Due.is("the lowest of all", x.richest(), 0);
+        x.days(1);
+        Due.is("the lowest, by MONEY", x.richest(), 0);
+        x.days(1);
+        Due.is("the highest, by MONEY", x.richest(), 7);
     }
 
     private static void keepAndUndo() {

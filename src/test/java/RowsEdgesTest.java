@@ -23,6 +23,7 @@ public final class RowsEdgesTest {
         comesRefuse();
         rests();
         restsRefuse();
+        fewerBehindMore();
         bytesFromTheFront();
         Due.end();
     }
@@ -299,6 +300,9 @@ public final class RowsEdgesTest {
         halvesAre(2, 0b1000, 1, 3, 3, 9);
         halvesAre(4, 0b010, 4, 4, 4);
         halvesAre(1, 0, 0, 1, 0, 0);
+        halvesAre(1, 0b0010, 0, 9, 4, 4);
+        halvesAre(1, 0b0010, 0, 8, 5, 4);
+        halvesAre(0, 0b1010, 4, 6, 3, 1);
     }
 
     private static void steadyIs(int want, int... bytes) {
@@ -413,6 +417,25 @@ public final class RowsEdgesTest {
         restsAre(60, -3, -3, 1, 2, 3, 4, 5, 6, 7, 8, 9, 10, 11, 1);
         restsAre(60, -3, -3, 1, 2, 3, 4, 5, 6, 7, 8, 9, 10, 11, 60);
         restsAre(2, -3, -3, 0, 1, 0);
+    }
+
+    /** Fewer numbers behind more: those of the call ahead count for nothing. */
+    private static void fewerBehindMore() {
+        x = new OnlyDifferences();
+        Call[] longer = {n -> x.walk(20, 0), n -> x.row(10, 0), n -> x.steady(20, 1)};
+        Call[] shorter = {n -> x.round(2, 2), n -> x.round(8, 0), n -> x.bestRise(1, 3), n -> x.narrowest(1, 0),
+            n -> x.twos(1, 0), n -> x.paired(2, 1), n -> x.halves(2, 1), n -> x.steady(1, 0), n -> x.comes(1, 0),
+            n -> x.comes(2, 0), n -> x.rests(2, 9, 1), n -> x.walk(1, 1), n -> x.row(2, 1), n -> x.check(1)};
+        int[] bytes = {6, 3, 0, 0, 0, 0, 0, 0};
+        long[] want = {2, 8, 0, 0, 0, 3, 2, 1, 0, 0, 1, 6, 6 * -256 - 3, 0};
+        for (int i = 0; i < shorter.length; i++) {
+            for (Call more : longer) {
+                Feed.bytes(x, times(20, 255, 1, 7, 2, 9));
+                more.of(0);
+                Feed.bytes(x, bytes);
+                Due.is("shorter call " + i, shorter[i].of(0), want[i]);
+            }
+        }
     }
 
     /** What stands behind the first n bytes counts for nothing. */
